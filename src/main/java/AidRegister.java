@@ -1267,7 +1267,17 @@ public final class AidRegister {
         private static final int SEMICOLON = 3;
         private static final int STRAY = 4;
         private static final int MOST_DIGITS = 6;
-        private static final int MOST_LETTERS = 6;
+        private static final int MOST_LETTERS_OF_NAME = 6;
+        private static final int MOST_LETTERS = 7;
+
+        /** The first words of statements, and no word, as packedWord answers them. */
+        private static final long NO_WORD = 0L;
+        private static final long DONOR = 0x646f6e6f72L;
+        private static final long DECLARE = 0x6465636c617265L;
+        private static final long GIFT = 0x67696674L;
+        private static final long SPLIT = 0x73706c6974L;
+        private static final long CASH = 0x63617368L;
+        private static final long RULES = 0x72756c6573L;
 
         int error;
         int errorPlace;
@@ -1278,9 +1288,9 @@ public final class AidRegister {
         private int start;
         private int at;
         private int kind;
+        private long word;
         private boolean rulesTold;
-        private final int[] nameStarts = new int[MOST_DONORS];
-        private final int[] nameLengths = new int[MOST_DONORS];
+        private final long[] names = new long[MOST_DONORS];
 
         SetupReader(byte[] text, Ledger target) {
             this.text = text;
@@ -1294,49 +1304,42 @@ public final class AidRegister {
             errorPlace = NONE;
             rulesTold = false;
             target.clear();
-            for (int statement = 0; statement < MOST_INPUT && error == NO_ERROR; statement++) {
-                advance();
-                if (kind == END) {
-                    return;
+            advance();
+            for (int statement = 0; statement < MOST_INPUT && kind != END && error == NO_ERROR; statement++) {
+                if (word == DONOR) {
+                    readDonor();
+                } else if (word == DECLARE) {
+                    readDeclaration();
+                } else if (word == GIFT) {
+                    readGift();
+                } else if (word == SPLIT) {
+                    readSplit();
+                } else if (word == CASH) {
+                    readGiftHead();
+                    readSemicolon();
+                } else if (word == RULES) {
+                    readRules();
+                } else {
+                    fail(SYNTAX);
                 }
-                readStatement();
-            }
-        }
-
-        private void readStatement() {
-            if (isWord("donor")) {
-                readDonor();
-            } else if (isWord("declare")) {
-                readDeclaration();
-            } else if (isWord("gift")) {
-                readGift();
-            } else if (isWord("split")) {
-                readSplit();
-            } else if (isWord("cash")) {
-                readGiftHead();
-                readSemicolon();
-            } else if (isWord("rules")) {
-                readRules();
-            } else {
-                fail(SYNTAX);
+                advance();
             }
         }
 
         private void readDonor() {
-            if (target.donorCount >= MOST_DONORS) {
+            int donor = target.donorCount;
+            if (donor >= MOST_DONORS) {
                 fail(MISPLACED);
             }
             advance();
             if (namedDonor() != NONE) {
                 fail(BAD_NAME);
             }
-            int nameStart = start;
-            int nameLength = at - start;
+            long name = word;
             int taxLimit = readNumber(0, MOST_MONEY);
             readSemicolon();
-            if (error == NO_ERROR) {
-                nameStarts[target.donorCount] = nameStart;
-                nameLengths[target.donorCount] = nameLength;
+            if (error == NO_ERROR && donor < MOST_DONORS) {
+                names[donor] = name;
                 target.addDonor(taxLimit);
             }
         }
@@ -1445,45 +1448,20 @@ public final class AidRegister {
 
         /** The donor with the present token as a name; NONE if there is none, or if it is no name. */
         private int namedDonor() {
-            if (kind != WORD || at - start > MOST_LETTERS || isFirstWord()) {
+            if (kind != WORD || at - start > MOST_LETTERS_OF_NAME || isFirstWord()) {
                 fail(SYNTAX);
                 return NONE;
             }
             for (int donor = 0; donor < target.donorCount; donor++) {
-                if (isNameOf(donor)) {
+                if (names[donor] == word) {
                     return donor;
                 }
             }
             return NONE;
         }
 
-        private boolean isNameOf(int donor) {
-            if (nameLengths[donor] != at - start) {
-                return false;
-            }
-            for (int letter = 0; letter < nameLengths[donor]; letter++) {
-                if (text[nameStarts[donor] + letter] != text[start + letter]) {
-                    return false;
-                }
-            }
-            return true;
-        }
-
         private boolean isFirstWord() {
-            return isWord("donor") || isWord("declare") || isWord("gift")
-                    || isWord("split") || isWord("cash") || isWord("rules");
-        }
-
-        private boolean isWord(String word) {
-            if (kind != WORD || word.length() != at - start) {
-                return false;
-            }
-            for (int letter = 0; letter < word.length(); letter++) {
-                if (text[start + letter] != word.charAt(letter)) {
-                    return false;
-                }
-            }
-            return true;
+            return word == DONOR || word == DECLARE || word == GIFT || word == SPLIT || word == CASH || word == RULES;
         }
 
         private void advance() {
@@ -1494,11 +1472,12 @@ public final class AidRegister {
             kind = kindAt(at);
             if (kind == SEMICOLON || kind == STRAY) {
                 at++;
-                return;
+            } else {
+                while (at < length && kindAt(at) == kind) {
+                    at++;
+                }
             }
-            while (kind != END && at < length && kindAt(at) == kind) {
-                at++;
-            }
+            word = packedWord();
         }
 
         private int kindAt(int place) {
@@ -1513,6 +1492,18 @@ public final class AidRegister {
                 return NUMBER;
             }
             return sign == ';' ? SEMICOLON : STRAY;
+        }
+
+        /** The letters of the present token, a byte each; NO_WORD if it is no word, or too long to mean anything. */
+        private long packedWord() {
+            if (kind != WORD || at - start > MOST_LETTERS) {
+                return NO_WORD;
+            }
+            long packed = 0;
+            for (int place = start; place < at; place++) {
+                packed = packed << 8 | text[place];
+            }
+            return packed;
         }
 
         /** Reports an error at the present token, unless one was met before. */

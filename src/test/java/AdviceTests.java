@@ -27,6 +27,7 @@ final class AdviceTests {
         Check.same("useOf(0) with a high limit", register.useOf(0), 25);
         Check.same("useOf(1) with a high limit", register.useOf(1), 10);
         Check.same("a question is no change", register.totalAid(), 55);
+        Check.same("of the day 0", Texts.register("donor a 9;declare a 0 0;gift 0 4 0 a;").useOf(0), 1);
         Check.noIndex("useOf(4)", () -> register.useOf(4));
         Check.noIndex("useOf(-1)", () -> register.useOf(-1));
     }
@@ -90,6 +91,10 @@ final class AdviceTests {
         Check.same("the other span", register.longestSpan(0), 18);
         register.revoke(2, 22);
         Check.same("15 days", register.longestSpan(0), 15);
+        AidRegister reverse = Texts.register("donor a 1;donor b 1;declare a 30 39;declare a 20 29;declare a 10 19;declare b 9999 9999;");
+        Check.same("three in reverse", reverse.longestSpan(0), 30);
+        Check.same("the last day", reverse.longestSpan(1), 1);
+        Check.same("one alone", Texts.register("donor a 1;declare a 5 9;").longestSpan(0), 5);
         Check.noIndex("longestSpan(3)", () -> register.longestSpan(3));
         Check.noIndex("longestSpan(-1)", () -> register.longestSpan(-1));
     }
@@ -124,6 +129,8 @@ final class AdviceTests {
         register.declare(1, 0, 9999);
         register.declare(0, 0, 9999);
         Check.same("the limited one", register.bestAsked(), 2);
+        register.setTaxLimit(2, 1);
+        Check.same("for a penny", register.bestAsked(), 2);
         register.setTaxLimit(2, 0);
         Check.same("nobody", register.bestAsked(), -1);
     }

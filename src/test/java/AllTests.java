@@ -12,6 +12,9 @@ public final class AllTests {
         ClaimTests.all();
         AdviceTests.all();
         SampleTests.all();
+        FullTests.all();
+        LanguageTests.all();
+        RoomTests.all();
         for (int from = 0; from < MODEL_RUNS; from += 100) {
             int first = from;
             Check.test("promises 1 to 52: random runs from " + first + " on, beside the plain model", () -> {

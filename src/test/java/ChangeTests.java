@@ -243,6 +243,7 @@ final class ChangeTests {
         Check.same("restoreState of the later state", register.restoreState(), 2);
         Check.same("claims", register.count(4), 1);
         Check.same("the claimed amount", register.part(0, 0, 5), 25);
+        Check.same("what was claimed", register.claimed(0, 1), 25);
     }
 
     private static void restoring() {
@@ -270,5 +271,11 @@ final class ChangeTests {
         register.setRate(1);
         Check.same("restoreState again", register.restoreState(), 1);
         Check.same("the rate", register.count(5), 30);
+        register.claim(5);
+        register.saveState();
+        register.undo();
+        register.claim(7);
+        register.restoreState();
+        Check.same("the day of the restored claim", register.claimed(0, 0), 5);
     }
 }

@@ -44,6 +44,10 @@ final class ClaimTests {
         register.undo();
         register.undo();
         Check.same("in time for both", register.claim(20), 50);
+        register.addGift(0, 9, 4, 0);
+        register.addGift(0, 10, 4, 0);
+        Check.same("a penny in time, a penny late", register.claim(20), 1);
+        Check.same("the penny", register.claimed(1, 1) + register.claimed(1, 3), 2);
     }
 
     private static void refusedClaims() {
@@ -101,6 +105,7 @@ final class ClaimTests {
         register.setRate(25);
         Check.same("behind 20 claims", register.claimable(20, false), 21);
         Check.same("a question is no change", register.count(4), 20);
+        Check.same("on day 0", register.claimable(0, true), 0);
         Check.noArgument("claimable(-1, true)", () -> register.claimable(-1, true));
         Check.noArgument("claimable(10000, false)", () -> register.claimable(10000, false));
     }
@@ -134,6 +139,8 @@ final class ClaimTests {
         for (int reason = 1; reason <= 5; reason++) {
             Check.same("lost(" + reason + ")", register.lost(reason), due[reason - 1]);
         }
+        AidRegister first = Texts.register("donor a 9;gift 0 40 0 a;");
+        Check.same("of the first part", first.lost(3), 10);
         Check.noArgument("lost(0)", () -> register.lost(0));
         Check.noArgument("lost(6)", () -> register.lost(6));
     }
@@ -163,6 +170,9 @@ final class ClaimTests {
         Check.same("a lower limit", register.limitedYears(0), 3);
         register.setTaxLimit(0, 999);
         Check.same("a high limit", register.limitedYears(0), 0);
+        AidRegister parts = Texts.register("donor a 99;donor b 9;declare a 0 9;declare b 0 9;split 5 80 0 a 1 b 1;");
+        Check.same("by a second part", parts.limitedYears(1), 1);
+        Check.same("not by that of another donor", parts.limitedYears(0), 0);
         Check.noIndex("limitedYears(2)", () -> register.limitedYears(2));
         Check.noIndex("limitedYears(-1)", () -> register.limitedYears(-1));
     }

@@ -181,6 +181,30 @@ final class ModelRuns {
     // --- texts
 
     private String text() {
+        return random.nextInt(10) == 0 ? fullText() : usualText();
+    }
+
+    /** Ten donors and almost as many splits of three donors as the buffer holds. */
+    private String fullText() {
+        StringBuilder text = new StringBuilder();
+        for (char donor = 'a'; donor < 'k'; donor++) {
+            text.append("donor ").append(donor).append(random.nextInt(900)).append(';');
+        }
+        for (int gift = random.nextInt(8); gift < 41; gift++) {
+            int first = random.nextInt(8);
+            int between = random.nextInt(9 - first) + 1 + first;
+            text.append("split").append(random.nextInt(70)).append(' ').append(random.nextInt(90) + 1).append(" 0")
+                    .append((char) ('a' + first)).append(random.nextInt(9) + 1)
+                    .append((char) ('a' + between)).append(random.nextInt(9) + 1);
+            if (between < 9) {
+                text.append('j').append(random.nextInt(9) + 1);
+            }
+            text.append(';');
+        }
+        return text.toString();
+    }
+
+    private String usualText() {
         StringBuilder text = new StringBuilder();
         String[] names = {"a", "bob", "ann", "zzzzzz", "gif", "gifts", "x", "y", "z", "abcd", "no"};
         int donors = random.nextInt(12) == 0 ? 11 : random.nextInt(5) + 1;

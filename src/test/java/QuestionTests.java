@@ -30,6 +30,9 @@ final class QuestionTests {
         for (int what = 0; what < due.length; what++) {
             Check.same("count(" + what + ")", register.count(what), due[what]);
         }
+        AidRegister cash = Texts.register("cash 1 10 9;cash 1 10 9;cash 1 10 2;");
+        Check.same("gifts without parts", cash.count(3), 3);
+        Check.same("spoilt gifts", cash.count(8), 2);
         Check.noArgument("count(-1)", () -> register.count(-1));
         Check.noArgument("count(10)", () -> register.count(10));
     }
@@ -128,6 +131,10 @@ final class QuestionTests {
             Check.same("reason(" + gift + ", 0)", register.reason(gift, 0), due[gift]);
         }
         Check.same("a part of nothing of a spoilt gift", register.reason(6, 1), 1);
+        register.split(0, 1, 1, 9);
+        Check.same("the greater part of b", register.reason(0, 1), 5);
+        Check.same("the smaller part of a", register.reason(0, 0), 0);
+        register.undo();
         register.refund(3, 10);
         Check.same("nothing left of a spoilt gift", register.reason(3, 0), 1);
         register.setRate(0);
@@ -193,6 +200,8 @@ final class QuestionTests {
         Check.same("in the gap", register.coverage(0, 30, 39), 0);
         Check.same("one day", register.coverage(0, 49, 49), 1);
         Check.same("the days behind", register.coverage(0, 50, 9999), 0);
+        AidRegister alone = Texts.register("donor a 1;declare a 9999 9999;");
+        Check.same("the last day alone", alone.coverage(0, 0, 9999), 1);
         Check.noIndex("coverage(2, 5, 4)", () -> register.coverage(2, 5, 4));
         Check.noIndex("coverage(-1, 0, 0)", () -> register.coverage(-1, 0, 0));
         Check.noArgument("coverage(0, 5, 4)", () -> register.coverage(0, 5, 4));
@@ -212,6 +221,13 @@ final class QuestionTests {
         Check.same("the gap of b", register.gap(1, 0, false), 0);
         Check.same("its end", register.gap(1, 0, true), 9999);
         Check.same("the gap of c", register.gap(2, 0, false), 9999);
+        AidRegister alone = Texts.register("donor a 1;declare a 7 9;declare a 4 6;declare a 2 3;declare a 0 0;");
+        Check.same("the second day", alone.gap(0, 0, true), 1);
+        Check.same("behind three in reverse", alone.gap(0, 1, false), 10);
+        Check.same("and no more", alone.gap(0, 2, false), -1);
+        AidRegister apart = Texts.register("donor a 1;declare a 5 5;declare a 7 7;");
+        Check.same("a gap more than declarations", apart.gap(0, 2, false), 8);
+        Check.same("from day 0 on", Texts.register("donor a 1;declare a 0 8;").gap(0, 0, false), 9);
         Check.same("gap(0, -1, false)", register.gap(0, -1, false), -1);
         Check.same("gap of the greatest int", register.gap(0, Integer.MAX_VALUE, false), -1);
         register.declare(1, 0, 9999);
@@ -228,6 +244,10 @@ final class QuestionTests {
         register.revoke(2, 0);
         Check.same("two alike and one of no day", register.needless(0), 3);
         Check.same("needless(1)", register.needless(1), 0);
+        AidRegister steps = Texts.register("donor a 1;declare a 5 9;declare a 3 8;declare a 0 4;");
+        Check.same("the one in the middle", steps.needless(0), 1);
+        AidRegister edges = Texts.register("donor a 1;declare a 5 9;declare a 5 8;declare a 0 8;");
+        Check.same("not the one with the last day", edges.needless(0), 1);
         Check.noIndex("needless(2)", () -> register.needless(2));
         Check.noIndex("needless(-1)", () -> register.needless(-1));
     }

@@ -46,8 +46,9 @@ final class SampleTests {
         text.append("split 0 9 0 a 1 b 1 c 1;".repeat(32));
         AidRegister register = Texts.register(text.toString());
         Check.same("nothing is claimed", register.sample(60, 7, 0), -1);
-        register.setRate(100);
+        register.setRate(34);
         register.claim(0);
+        Check.same("a penny of each part", register.donor(1, 3, -1), 32);
         boolean[] seen = new boolean[96];
         for (int index = 0; index < 60; index++) {
             int part = register.sample(60, 7, index);

@@ -13,6 +13,7 @@ final class SetupTests {
         Check.test("promise 4: loadRegister empties the buffer", SetupTests::loadEmptiesBuffer);
         Check.test("promise 4: an error changes nothing but the buffer", SetupTests::errorChangesNothing);
         Check.test("promise 4: tokens may stand close together or apart", SetupTests::spacing);
+        Check.test("promise 4: nothing of an earlier text is left", SetupTests::nothingIsLeft);
         Check.test("promise 4: the weights share out an amount", SetupTests::sharing);
         Check.test("promise 5: errorCode", SetupTests::errorCodes);
         Check.test("promise 6: errorOffset", SetupTests::errorOffsets);
@@ -151,6 +152,29 @@ final class SetupTests {
         Check.same("the greatest benefit", register.gift(1, 2), 999999);
         register = Texts.register("rules 100 9999 100;");
         Check.same("the rate, the window and the benefit limit", register.count(5) + register.count(6) + register.count(7), 10199);
+    }
+
+    private static void nothingIsLeft() {
+        String text = "rules 25 99 25;donor zz 99;donor a 99;declare zz 0 9;split 5 80 0 zz 1 a 1;gift 6 40 0 zz;";
+        AidRegister register = Texts.register(text);
+        register.claim(5);
+        register.refund(0, 50);
+        register.refund(1, 40);
+        register.claim(6);
+        register.useOf(0);
+        Check.same("the same text again", Texts.load(register, text), 2);
+        Check.same("left of the first gift", register.gift(0, 4), 80);
+        Check.same("left of its parts", register.part(0, 0, 2) + register.part(0, 1, 2), 80);
+        Check.same("parts of the first gift", register.gift(0, 3), 2);
+        Check.same("claimed of the first gift", register.gift(0, 7), 0);
+        register.claim(6);
+        int[] due = {6, 20, 0, 2, 0};
+        for (int what = 0; what < due.length; what++) {
+            Check.same("claimed(0, " + what + ")", register.claimed(0, what), due[what]);
+        }
+        Check.same("a text without rules", Texts.load(register, "cash 5 6 7;"), 1);
+        Check.same("the parts of its gift", register.gift(0, 3), 0);
+        Check.same("the window", register.count(6), 1460);
     }
 
     private static void sharing() {
