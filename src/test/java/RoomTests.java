@@ -53,7 +53,7 @@ final class RoomTests {
     }
 
     private static void askAndChange(AidRegister register) {
-        for (int round = 0; round < 5; round++) {
+        for (int round = 0; round < 3; round++) {
             register.neededSpan(1, true);
             register.bestAsked();
             register.gainOf(0, 5, 9000);
