@@ -18,6 +18,7 @@ public final class AllTests {
         FullTests.all();
         LanguageTests.all();
         RoomTests.all();
+        ReadmeTests.all();
         for (int from = 0; from < MODEL_RUNS; from += 100) {
             int first = from;
             Check.test("promises 1 to 52: random runs from " + first + " on, beside the plain model", () -> {
